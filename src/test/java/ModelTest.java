@@ -1,0 +1,137 @@
+import java.util.Random;
+
+/** Long runs of calls with good arguments: the class answers as the document's lines do. */
+public final class ModelTest {
+    private static final Checks C = new Checks();
+
+    public static void main(String[] args) {
+        for (int seed = 0; seed < 400 && C.wrong() == 0; seed++) {
+            oneRun(new Random(seed), seed);
+        }
+        C.end("ModelTest");
+    }
+
+    private static double coarse(Random r, int eighths) {
+        return (r.nextInt(2 * eighths + 1) - eighths) / 8.0;
+    }
+
+    /** Round numbers half of the time, so that nodes and rows meet; others with all their bits. */
+    private static double place(Random r, double far) {
+        return r.nextBoolean() ? coarse(r, (int) (far * 8)) : (2 * r.nextDouble() - 1) * far;
+    }
+
+    private static void oneRun(Random r, int seed) {
+        NetShapes x = new NetShapes();
+        Model m = new Model();
+        double far = seed % 7 == 0 ? 1000 : seed % 3 == 0 ? 100 : 6;
+        int first = 2 + r.nextInt(12);
+        for (int i = 0; i < first; i++) {
+            addNode(r, x, m, far);
+        }
+        for (int i = 0; i < 120; i++) {
+            change(r, x, m, far);
+            if (r.nextInt(6) == 0) {
+                int rounds = 1 + r.nextInt(r.nextInt(4) == 0 ? 300 : 20);
+                C.due(seed + ": run " + rounds, x.run(rounds), m.run(rounds));
+                compare(seed, x, m);
+            }
+            C.due(seed + ": mirrored", x.mirrored(), m.mirrored());
+        }
+    }
+
+    private static void addNode(Random r, NetShapes x, Model m, double far) {
+        double px = place(r, far);
+        double py = place(r, far);
+        double pz = place(r, far);
+        boolean room = m.nodes.size() < 30;
+        C.due("node", x.node(px, py, pz), room ? m.nodes.size() : -1);
+        if (room) {
+            m.node(px, py, pz);
+        }
+    }
+
+    private static void addBar(Random r, NetShapes x, Model m, double far) {
+        int a = r.nextInt(m.nodes.size());
+        int b = r.nextInt(m.nodes.size());
+        double length = Math.min(1000, 0.125 + r.nextDouble() * far);
+        double width = r.nextInt(5) == 0 ? 0 : r.nextDouble() * (r.nextInt(9) == 0 ? 10 : 0.25);
+        double strong = r.nextInt(5) == 0 ? 0 : r.nextDouble() * 500;
+        boolean good = a != b && m.bars.size() < 60;
+        C.due("bar", x.bar(a, b, length, width, strong), good ? m.bars.size() : -1);
+        if (good) {
+            m.bar(a, b, length, width, strong);
+        }
+    }
+
+    private static void addRow(Random r, NetShapes x, Model m, double far) {
+        double depth = place(r, far);
+        double speed = r.nextDouble() * (r.nextInt(6) == 0 ? 10 : 1);
+        int direction = 45 * r.nextInt(8);
+        boolean good = m.rows.size() < 10 || m.rows.containsKey(depth + 0.0);
+        C.due("current", x.current(depth, speed, direction), good);
+        if (good) {
+            m.current(depth, speed, direction);
+        }
+    }
+
+    private static void change(Random r, NetShapes x, Model m, double far) {
+        int node = r.nextInt(m.nodes.size());
+        switch (r.nextInt(12)) {
+            case 0:
+                addNode(r, x, m, far);
+                break;
+            case 1:
+                C.due("fix", x.fix(node), true);
+                m.nodes.get(node).fixed = true;
+                break;
+            case 2:
+                m.nodes.get(node).lift = (2 * r.nextDouble() - 1) * 300;
+                C.due("floats", x.floats(node, m.nodes.get(node).lift), true);
+                break;
+            case 3:
+                m.nodes.get(node).load = r.nextDouble() * 300;
+                C.due("catchAt", x.catchAt(node, m.nodes.get(node).load), true);
+                break;
+            case 4:
+                m.foul = r.nextDouble() * 5;
+                C.due("foul", x.foul(m.foul), true);
+                break;
+            case 5:
+                double height = r.nextDouble() * 30;
+                double period = 1 + r.nextDouble() * 59;
+                int n = r.nextInt(101);
+                m.wave = height / (period + 1.0) * n / 100;
+                C.due("wave", x.wave(height, period, n), m.rows.size());
+                break;
+            case 6:
+            case 7:
+                addRow(r, x, m, far);
+                break;
+            default:
+                addBar(r, x, m, far);
+                break;
+        }
+    }
+
+    private static void compare(int seed, NetShapes x, Model m) {
+        for (int node = 0; node < m.nodes.size(); node++) {
+            for (int axis = 0; axis < 3; axis++) {
+                C.due(seed + ": at " + node, x.at(node, axis), m.at(node, axis));
+            }
+        }
+        for (int bar = 0; bar < m.bars.size(); bar++) {
+            C.due(seed + ": pull " + bar, x.pull(bar), m.bars.get(bar).pull);
+            C.due(seed + ": over " + bar, x.over(bar), m.over(bar));
+        }
+        for (int axis = 0; axis < 3; axis++) {
+            C.due(seed + ": open " + axis, x.open(axis), m.open(axis));
+        }
+        C.due(seed + ": drag 0", x.drag(0), m.dragX);
+        C.due(seed + ": drag 1", x.drag(1), m.dragY);
+        C.due(seed + ": drag 2", x.drag(2), m.dragZ);
+        C.due(seed + ": residual", x.residual(), m.residual);
+        for (int lists = 1; lists <= 20; lists++) {
+            C.due(seed + ": best " + lists, x.best(lists), m.best(lists));
+        }
+    }
+}
