@@ -23,7 +23,7 @@ public final class ModelTest {
     private static void oneRun(Random r, int seed) {
         NetShapes x = new NetShapes();
         Model m = new Model();
-        double far = seed % 7 == 0 ? 1000 : seed % 3 == 0 ? 100 : 6;
+        double far = seed % 11 == 0 ? 1.0e-9 : seed % 7 == 0 ? 1000 : seed % 3 == 0 ? 100 : 6;
         int first = 2 + r.nextInt(12);
         for (int i = 0; i < first; i++) {
             addNode(r, x, m, far);
@@ -65,7 +65,7 @@ public final class ModelTest {
 
     private static void addRow(Random r, NetShapes x, Model m, double far) {
         double depth = place(r, far);
-        double speed = r.nextDouble() * (r.nextInt(6) == 0 ? 10 : 1);
+        double speed = r.nextDouble() * (r.nextInt(6) == 0 ? 10 : r.nextInt(6) == 0 ? 1.0e-9 : 1);
         int direction = 45 * r.nextInt(8);
         boolean good = m.rows.size() < 10 || m.rows.containsKey(depth + 0.0);
         C.due("current", x.current(depth, speed, direction), good);

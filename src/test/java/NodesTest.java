@@ -130,6 +130,7 @@ public final class NodesTest {
         C.due("3: a run with 60", x.run(1) >= NONE, true);
         C.due("3: the last one has a pull", x.pull(59) >= 0, true);
         C.due("3: the 61st has none", x.pull(60), -1.0);
+        C.due("3: so many are not overloaded", x.over(60), NONE);
     }
 
     private static void fixed() {
@@ -247,6 +248,9 @@ public final class NodesTest {
 
     private static void mirror() {
         NetShapes x = new NetShapes();
+        x.node(3, 1, 2);
+        C.due("21: the only one", x.mirrored(), false);
+        x = new NetShapes();
         x.node(0, 1, 2);
         C.due("21: in the middle", x.mirrored(), true);
         x.node(3, 1, 2);

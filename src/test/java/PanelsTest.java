@@ -90,11 +90,13 @@ public final class PanelsTest {
         x.panel(5, 4, 1);
         x.panel(4, 5, 1);
         x.panel(7, 7, 1);
-        boolean[] alike = {true, true, false, false, true};
+        x.panel(10, 8, 1);
+        x.panel(10, 7, 1);
+        boolean[] alike = {true, true, false, false, true, true, false};
         for (int i = 0; i < alike.length; i++) {
             C.due("17: " + i, x.whole(i), alike[i]);
         }
-        C.due("17: none such", x.whole(5), false);
+        C.due("17: none such", x.whole(7), false);
         for (int i : FAR) {
             C.due("17: " + i, x.whole(i), false);
         }

@@ -15,6 +15,7 @@ public final class RunTest {
         residuals();
         drags();
         noLengthNoDrag();
+        shortestBar();
         overloads();
         bestRuns();
         bestOfTwenty();
@@ -222,6 +223,27 @@ public final class RunTest {
         C.due("7: L of 0, residual", x.residual(), 0.0);
     }
 
+    private static void shortestBar() {
+        NetShapes x = new NetShapes();
+        x.node(0, 0, 0);
+        x.node(1.0e-10, 0, 0);
+        x.bar(0, 1, 1, 1.0 / 256, 1);
+        x.fix(0);
+        x.fix(1);
+        x.current(0, 1, 0);
+        C.due("7: shortest, run", x.run(1), 0);
+        double l = Model.root(1.0e-10 * 1.0e-10);
+        double w = 1.0e-10 / l;
+        double nx = 1 - w * 1.0e-10 / l;
+        C.due("7: shortest, drag", x.drag(0), Model.root(nx * nx) * nx);
+        C.due("7: L is not the true root there", nx > 0.9 && nx < 0.97, true);
+        x.node(0, 1.0e-200, 0);
+        x.bar(0, 2, 1, 1.0 / 256, 1);
+        x.fix(2);
+        C.due("7: too short to have an L, run", x.run(1), 0);
+        C.due("7: too short to have an L, drag", x.drag(0), Model.root(nx * nx) * nx);
+    }
+
     private static void overloads() {
         NetShapes x = new NetShapes();
         x.node(0, 0, 0);
@@ -322,6 +344,15 @@ public final class RunTest {
         x.node(0, 1000, 1000);
         x.fix(3);
         C.due("22: open as it was then", x.best(2), 0);
+        double[] speeds = {1.375, 1.4375};
+        for (int i = 0; i < 2; i++) {
+            NetShapes z = plumb();
+            runWith(z, 1, 0);
+            z.node(0, -1, 0);
+            z.fix(2);
+            runWith(z, speeds[i], 0);
+            C.due("22: over 1 and the opening, " + speeds[i], z.best(2), i);
+        }
         NetShapes y = plumb();
         runWith(y, 2, 0);
         y.node(1000, 0, 1000);

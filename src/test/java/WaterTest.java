@@ -14,6 +14,7 @@ public final class WaterTest {
         orderDoesNotMatter();
         oneRow();
         alongTheBar();
+        slowestWater();
         fouling();
         waves();
         C.end("WaterTest");
@@ -135,6 +136,19 @@ public final class WaterTest {
         C.due("6: a current along the bar drags nothing", x.run(1), 0);
         C.due("6: along, x", x.drag(0), 0.0);
         C.due("6: along, y", x.drag(1), 0.0);
+    }
+
+    /** ROOT is not a true root of small numbers: its first guess is only halved thirty times. */
+    private static void slowestWater() {
+        NetShapes x = plumb(0);
+        x.current(0, 1.0e-150, 0);
+        C.due("6: slowest, run", x.run(1), 0);
+        C.due("6: slowest, drag", x.drag(0), 1.0 / (1L << 31) * 1.0e-150);
+        for (double speed = 1.0; speed > 1.0e-15; speed *= 0.3) {
+            x = plumb(0);
+            x.current(0, speed, 225);
+            flow("6: speed " + speed, x, 0 - speed * H, 0 - speed * H);
+        }
     }
 
     private static void fouling() {
