@@ -25,11 +25,26 @@ final class Checks {
         }
     }
 
+    /** For answers of any kind: numbers are the same by their value, others by equals. */
+    void same(String call, Object got, Object want) {
+        asked++;
+        boolean numbers = got instanceof Number && want instanceof Number;
+        boolean alike = numbers
+            ? ((Number) got).doubleValue() == ((Number) want).doubleValue() : got.equals(want);
+        if (!alike) {
+            complain(call, String.valueOf(got), String.valueOf(want));
+        }
+    }
+
     private void complain(String call, String got, String want) {
         wrong++;
         if (wrong <= 50) {
             System.out.println(call + " answered " + got + ", due is " + want);
         }
+    }
+
+    int asked() {
+        return asked;
     }
 
     int wrong() {

@@ -3,9 +3,11 @@ import java.util.Random;
 /** Long runs of calls with good arguments: the class answers as the document's lines do. */
 public final class ModelTest {
     private static final Checks C = new Checks();
+    private static final int MOST_LOOKED = 9;
+    private static final int MOST_COMPARED = 30 * 3 + 60 * 2 + 3 + 3 + 1 + 20 + 1;
 
     public static void main(String[] args) {
-        for (int seed = 0; seed < 400 && C.wrong() == 0; seed++) {
+        for (int seed = 0; seed < 600 && C.wrong() == 0; seed++) {
             oneRun(new Random(seed), seed);
         }
         C.end("ModelTest");
@@ -24,19 +26,35 @@ public final class ModelTest {
         NetShapes x = new NetShapes();
         Model m = new Model();
         double far = seed % 11 == 0 ? 1.0e-9 : seed % 7 == 0 ? 1000 : seed % 3 == 0 ? 100 : 6;
+        int before = C.asked();
         int first = 2 + r.nextInt(12);
         for (int i = 0; i < first; i++) {
             addNode(r, x, m, far);
         }
-        for (int i = 0; i < 120; i++) {
+        // Each answer is of one call, so the answers tell how many calls the object has had.
+        while (C.asked() - before < Tried.MOST_CALLS - MOST_COMPARED - MOST_LOOKED) {
             change(r, x, m, far);
             if (r.nextInt(6) == 0) {
                 int rounds = 1 + r.nextInt(r.nextInt(4) == 0 ? 300 : 20);
                 C.due(seed + ": run " + rounds, x.run(rounds), m.run(rounds));
-                compare(seed, x, m);
+                look(r, seed, x, m);
             }
-            C.due(seed + ": mirrored", x.mirrored(), m.mirrored());
         }
+        compare(seed, x, m);
+        C.due(seed + ": within 512 calls", C.asked() - before <= Tried.MOST_CALLS, true);
+    }
+
+    /** A few answers after each run; all of them would soon be more than 512 calls. */
+    private static void look(Random r, int seed, NetShapes x, Model m) {
+        int node = r.nextInt(m.nodes.size());
+        int axis = r.nextInt(3);
+        C.due(seed + ": at " + node, x.at(node, axis), m.at(node, axis));
+        C.due(seed + ": open " + axis, x.open(axis), m.open(axis));
+        C.due(seed + ": drag 0", x.drag(0), m.dragX);
+        C.due(seed + ": residual", x.residual(), m.residual);
+        C.due(seed + ": over " + axis, x.over(axis), m.over(axis));
+        C.due(seed + ": best 3", x.best(3), m.best(3));
+        C.due(seed + ": mirrored", x.mirrored(), m.mirrored());
     }
 
     private static void addNode(Random r, NetShapes x, Model m, double far) {
@@ -130,6 +148,7 @@ public final class ModelTest {
         C.due(seed + ": drag 1", x.drag(1), m.dragY);
         C.due(seed + ": drag 2", x.drag(2), m.dragZ);
         C.due(seed + ": residual", x.residual(), m.residual);
+        C.due(seed + ": mirrored", x.mirrored(), m.mirrored());
         for (int lists = 1; lists <= 20; lists++) {
             C.due(seed + ": best " + lists, x.best(lists), m.best(lists));
         }
