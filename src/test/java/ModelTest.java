@@ -4,13 +4,39 @@ import java.util.Random;
 public final class ModelTest {
     private static final Checks C = new Checks();
     private static final int MOST_LOOKED = 9;
-    private static final int MOST_COMPARED = 30 * 3 + 60 * 2 + 3 + 3 + 1 + 20 + 1;
+    private static final int SEEDS = 600;
+
+    private static int balanced = 0;
+
+    /** How far nodes lie and how hard they are pulled; a run is made after one change in so many. */
+    private record Kind(double far, int nodes, int bars, double newton, int changesARun) {
+        boolean calm() {
+            return changesARun == 1;
+        }
+
+        int mostCompared() {
+            return nodes * 3 + bars * 2 + 3 + 3 + 1 + 20 + 1;
+        }
+    }
+
+    /** Small and hardly pulled, so that most runs come into balance, each with its own fuel. */
+    private static final Kind CALM = new Kind(2, 4, 6, 40, 1);
 
     public static void main(String[] args) {
-        for (int seed = 0; seed < 600 && C.wrong() == 0; seed++) {
-            oneRun(new Random(seed), seed);
+        for (int seed = 0; seed < SEEDS && C.wrong() == 0; seed++) {
+            oneRun(new Random(seed), seed, wild(seed));
         }
+        balanced = 0;
+        for (int seed = SEEDS; seed < 2 * SEEDS && C.wrong() == 0; seed++) {
+            oneRun(new Random(seed), seed, CALM);
+        }
+        C.due("calm nets come into balance often", balanced > 20 * SEEDS, true);
         C.end("ModelTest");
+    }
+
+    private static Kind wild(int seed) {
+        double far = seed % 11 == 0 ? 1.0e-9 : seed % 7 == 0 ? 1000 : seed % 3 == 0 ? 100 : 6;
+        return new Kind(far, 30, 60, 300, 6);
     }
 
     private static double coarse(Random r, int eighths) {
@@ -22,21 +48,22 @@ public final class ModelTest {
         return r.nextBoolean() ? coarse(r, (int) (far * 8)) : (2 * r.nextDouble() - 1) * far;
     }
 
-    private static void oneRun(Random r, int seed) {
+    private static void oneRun(Random r, int seed, Kind kind) {
         NetShapes x = new NetShapes();
         Model m = new Model();
-        double far = seed % 11 == 0 ? 1.0e-9 : seed % 7 == 0 ? 1000 : seed % 3 == 0 ? 100 : 6;
         int before = C.asked();
-        int first = 2 + r.nextInt(12);
+        int first = 2 + r.nextInt(kind.calm() ? 3 : 12);
         for (int i = 0; i < first; i++) {
-            addNode(r, x, m, far);
+            addNode(r, x, m, kind);
         }
         // Each answer is of one call, so the answers tell how many calls the object has had.
-        while (C.asked() - before < Tried.MOST_CALLS - MOST_COMPARED - MOST_LOOKED) {
-            change(r, x, m, far);
-            if (r.nextInt(6) == 0) {
-                int rounds = 1 + r.nextInt(r.nextInt(4) == 0 ? 300 : 20);
-                C.due(seed + ": run " + rounds, x.run(rounds), m.run(rounds));
+        while (C.asked() - before < Tried.MOST_CALLS - kind.mostCompared() - MOST_LOOKED) {
+            change(r, x, m, kind);
+            if (r.nextInt(kind.changesARun()) == 0) {
+                int rounds = 1 + r.nextInt(kind.calm() || r.nextInt(4) == 0 ? 300 : 20);
+                int done = m.run(rounds);
+                balanced += done >= 0 ? 1 : 0;
+                C.due(seed + ": run " + rounds, x.run(rounds), done);
                 look(r, seed, x, m);
             }
         }
@@ -57,10 +84,17 @@ public final class ModelTest {
         C.due(seed + ": mirrored", x.mirrored(), m.mirrored());
     }
 
-    private static void addNode(Random r, NetShapes x, Model m, double far) {
-        double px = place(r, far);
-        double py = place(r, far);
-        double pz = place(r, far);
+    private static void addNode(Random r, NetShapes x, Model m, Kind kind) {
+        double px = place(r, kind.far());
+        double py = place(r, kind.far());
+        double pz = place(r, kind.far());
+        if (kind.calm() && !m.nodes.isEmpty()) {
+            // The last one's image, so that some nets are mirrored.
+            Model.Node last = m.nodes.get(m.nodes.size() - 1);
+            px = 0 - last.x;
+            py = last.y;
+            pz = r.nextInt(5) == 0 ? pz : last.z;
+        }
         boolean room = m.nodes.size() < 30;
         C.due("node", x.node(px, py, pz), room ? m.nodes.size() : -1);
         if (room) {
@@ -68,10 +102,10 @@ public final class ModelTest {
         }
     }
 
-    private static void addBar(Random r, NetShapes x, Model m, double far) {
+    private static void addBar(Random r, NetShapes x, Model m, Kind kind) {
         int a = r.nextInt(m.nodes.size());
         int b = r.nextInt(m.nodes.size());
-        double length = Math.min(1000, 0.125 + r.nextDouble() * far);
+        double length = Math.min(1000, 0.125 + r.nextDouble() * kind.far());
         double width = r.nextInt(5) == 0 ? 0 : r.nextDouble() * (r.nextInt(9) == 0 ? 10 : 0.25);
         double strong = r.nextInt(5) == 0 ? 0 : r.nextDouble() * 500;
         boolean good = a != b && m.bars.size() < 60;
@@ -81,9 +115,11 @@ public final class ModelTest {
         }
     }
 
-    private static void addRow(Random r, NetShapes x, Model m, double far) {
-        double depth = place(r, far);
-        double speed = r.nextDouble() * (r.nextInt(6) == 0 ? 10 : r.nextInt(6) == 0 ? 1.0e-9 : 1);
+    private static void addRow(Random r, NetShapes x, Model m, Kind kind) {
+        double depth = place(r, kind.far());
+        boolean fast = !kind.calm() && r.nextInt(6) == 0;
+        double most = fast ? 10 : r.nextInt(6) == 0 ? 1.0e-9 : kind.calm() ? 0.25 : 1;
+        double speed = r.nextDouble() * most;
         int direction = 45 * r.nextInt(8);
         boolean good = m.rows.size() < 10 || m.rows.containsKey(depth + 0.0);
         C.due("current", x.current(depth, speed, direction), good);
@@ -92,22 +128,24 @@ public final class ModelTest {
         }
     }
 
-    private static void change(Random r, NetShapes x, Model m, double far) {
+    private static void change(Random r, NetShapes x, Model m, Kind kind) {
         int node = r.nextInt(m.nodes.size());
         switch (r.nextInt(12)) {
             case 0:
-                addNode(r, x, m, far);
+                if (!kind.calm() || m.nodes.size() < kind.nodes()) {
+                    addNode(r, x, m, kind);
+                }
                 break;
             case 1:
                 C.due("fix", x.fix(node), true);
                 m.nodes.get(node).fixed = true;
                 break;
             case 2:
-                m.nodes.get(node).lift = (2 * r.nextDouble() - 1) * 300;
+                m.nodes.get(node).lift = (2 * r.nextDouble() - 1) * kind.newton();
                 C.due("floats", x.floats(node, m.nodes.get(node).lift), true);
                 break;
             case 3:
-                m.nodes.get(node).load = r.nextDouble() * 300;
+                m.nodes.get(node).load = r.nextDouble() * kind.newton();
                 C.due("catchAt", x.catchAt(node, m.nodes.get(node).load), true);
                 break;
             case 4:
@@ -123,10 +161,12 @@ public final class ModelTest {
                 break;
             case 6:
             case 7:
-                addRow(r, x, m, far);
+                addRow(r, x, m, kind);
                 break;
             default:
-                addBar(r, x, m, far);
+                if (!kind.calm() || m.bars.size() < kind.bars()) {
+                    addBar(r, x, m, kind);
+                }
                 break;
         }
     }
